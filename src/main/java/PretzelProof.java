@@ -293,7 +293,7 @@ public final class PretzelProof {
         if (colours.waysBy(rope, 5) != colours.waysBy(other, 5)) {
             parted += 2;
         }
-        if (moveList.fewestLeft(rope, 0, 0) != moveList.fewestLeft(other, 0, 0)) {
+        if (fewestUnsalted(rope) != fewestUnsalted(other)) {
             parted += 4;
         }
         return parted;
@@ -381,17 +381,21 @@ public final class PretzelProof {
         int set = 0;
         for (int k = 0; k < MOST_PRETZELS; k++) {
             Rope rope = now.ropeOf(k);
-            if (rope != null && moveList.fewestLeft(rope, 0, rope.salted) == 0) {
+            if (rope != null && moveList.leftOf(rope, rope.everyCrossing(), 0, rope.salted) == 0) {
                 set |= 1 << k;
             }
         }
         return set;
     }
 
+    private int fewestUnsalted(Rope rope) {
+        return Integer.bitCount(moveList.leftOf(rope, rope.everyCrossing(), 0, 0));
+    }
+
     private int weakOnes(Rope rope) {
         int set = 0;
         for (int c = 0; c < rope.crossings; c++) {
-            if (moveList.fewestLeft(rope, 1 << c, 0) == 0) {
+            if (moveList.leftOf(rope, rope.everyCrossing(), 1 << c, 0) == 0) {
                 set |= 1 << c;
             }
         }
@@ -399,11 +403,13 @@ public final class PretzelProof {
     }
 
     private int fewestSwitches(Rope rope) {
-        int every = rope.everyCrossing();
+        // What curls away does so switched or not, so it need never be switched.
+        int wound = moveList.leftByCurls(rope);
         // Half of them is enough: to switch all the others instead gives the mirrored rope, with the same moves.
-        for (int many = 0; many <= rope.crossings / 2; many++) {
-            for (int set = 0; set <= every; set++) {
-                if (Integer.bitCount(set) == many && moveList.fewestLeft(rope, set, 0) == 0) {
+        for (int many = 0; many <= Integer.bitCount(wound) / 2; many++) {
+            for (int set = 0; set <= wound; set++) {
+                boolean fits = (set & ~wound) == 0 && Integer.bitCount(set) == many;
+                if (fits && moveList.leftOf(rope, wound, set, 0) == 0) {
                     return set;
                 }
             }
@@ -464,7 +470,11 @@ public final class PretzelProof {
 
     private int draw(int n) {
         drawn = (int) ((drawn * 1103515245L + 12345L) & 0x7fffffffL);
-        return n > 0 ? drawn / 65536 % n : 0;
+        return leftOver(drawn / 65536, n);
+    }
+
+    private static int leftOver(int number, int by) {
+        return by > 0 ? number % by : 0;
     }
 
     private static boolean isIn(int set, int member) {
@@ -988,20 +998,30 @@ public final class PretzelProof {
         }
 
         /**
-         * Any row of moves ends with as few crossings as any other: moves apart from one another stay possible, a
-         * curl of one that could be poked leaves the other to be curled, and of two pokes that share a crossing each
-         * leaves the same thread but for the name. So the first move will always do.
+         * The crossings that stay of left, by the first moves. Any other row of moves leaves as many: moves apart
+         * from one another stay possible, a curl of one that could be poked leaves the other to be curled, and of
+         * two pokes that share a crossing each leaves the same thread but for the name.
          */
-        int fewestLeft(Rope rope, int switched, int held) {
-            int left = rope.everyCrossing();
+        int leftOf(Rope rope, int left, int switched, int held) {
+            int stay = left;
             for (int i = 0; i < MOST_CROSSINGS; i++) {
-                lookAt(rope, left, switched, held);
+                lookAt(rope, stay, switched, held);
                 if (count == 0) {
                     break;
                 }
-                left &= ~takenBy(numbers[0]);
+                int freeCurls = curls & ~held;
+                stay &= ~(freeCurls != 0 ? freeCurls : takenBy(numbers[0]));
             }
-            return Integer.bitCount(left);
+            return stay;
+        }
+
+        int leftByCurls(Rope rope) {
+            int stay = rope.everyCrossing();
+            for (int i = 0; i < MOST_CROSSINGS; i++) {
+                seeNeighbours(takeRow(rope, stay, 0));
+                stay &= ~curls;
+            }
+            return stay;
         }
 
         int takeRow(Rope rope, int left, int switched) {
@@ -1161,7 +1181,7 @@ public final class PretzelProof {
             if (pivotRow < 0 || pivotRow >= MOST_CROSSINGS) {
                 return part == free ? 1 : 0;
             }
-            return (3 - rows[pivotRow][free]) % 3;
+            return leftOver(3 - rows[pivotRow][free], 3);
         }
 
         void solve(Rope rope, int m) {
@@ -1207,8 +1227,8 @@ public final class PretzelProof {
         }
 
         void addTo(int row, int part, int amount, int m) {
-            if (part >= 0 && part < MOST_CROSSINGS && m > 0) {
-                rows[row][part] = (rows[row][part] + amount) % m;
+            if (part >= 0 && part < MOST_CROSSINGS) {
+                rows[row][part] = leftOver(rows[row][part] + amount, m);
             }
         }
 
@@ -1231,11 +1251,11 @@ public final class PretzelProof {
 
         void scaleRow(int row, int pivot, int m) {
             int factor = 1;
-            while (factor < m && rows[row][pivot] * factor % m != 1) {
+            while (factor < m && leftOver(rows[row][pivot] * factor, m) != 1) {
                 factor++;
             }
             for (int part = 0; part < parts; part++) {
-                rows[row][part] = rows[row][part] * factor % m;
+                rows[row][part] = leftOver(rows[row][part] * factor, m);
             }
         }
 
@@ -1243,7 +1263,7 @@ public final class PretzelProof {
             for (int row = 0; row < count; row++) {
                 int times = row == pivotRow ? 0 : m - rows[row][pivot];
                 for (int part = 0; part < parts && times != 0; part++) {
-                    rows[row][part] = (rows[row][part] + times * rows[pivotRow][part]) % m;
+                    rows[row][part] = leftOver(rows[row][part] + times * rows[pivotRow][part], m);
                 }
             }
         }
