@@ -665,7 +665,7 @@ public final class Promises {
         due("seed(LOW)", x.seed(LOW), OUTSIDE);
         due("seed(0)", x.seed(0), HIGH);
         x.seed(0);
-        // 0 becomes 12345, of which both draws of 0 are shaken: nothing, two draws.
+        // The first draw is 0 (12345 / 65536), so a plain one is to be shaken: no draw but these two.
         x.drift(1);
         due("two draws", x.seed(0), (int) ((12345L * 1103515245L + 12345L) % (1L << 31)));
     }
