@@ -1,11 +1,5 @@
 /** For each promise of the document ordinary calls, the edges that it names, and wrong calls. */
-public final class Promises {
-    private static final int NONE = -1, UNKNOWN = -1000000001, OUTSIDE = -1000000002, NOT = -1000000003, FULL = -1000000004;
-    private static final int LOW = Integer.MIN_VALUE, HIGH = Integer.MAX_VALUE;
-    private static final String TREFOIL = "aBcAbC", EIGHT = "aBcAdCbD";
-    private static int wrong = 0;
-    private static int asked = 0;
-
+public final class Promises extends Checks {
     public static void main(String[] args) {
         constants();
         promise1NewObject();
@@ -40,62 +34,11 @@ public final class Promises {
         promise29Seed();
         promise30And31Images();
         refusalsChangeNothing();
-        System.out.println(asked + " answers, " + wrong + " not as due");
-        if (wrong != 0) {
-            System.exit(1);
-        }
-    }
-
-    private static void due(String what, int got, int want) {
-        asked++;
-        if (got != want) {
-            wrong++;
-            System.out.println(what + " answered " + got + ", due is " + want);
-        }
-    }
-
-    private static void feedAll(PretzelProof x, String text) {
-        for (int i = 0; i < text.length(); i++) {
-            x.feed(text.charAt(i));
-        }
-    }
-
-    private static PretzelProof laid(String text) {
-        PretzelProof x = new PretzelProof();
-        feedAll(x, text);
-        int pretzels = x.tray();
-        if (pretzels < 0) {
-            due("tray() of '" + text + "'", pretzels, 0);
-        }
-        return x;
-    }
-
-    /** A thread as letters, the crossings named as they come. */
-    private static void dueThread(String what, PretzelProof x, int k, String want) {
-        StringBuilder got = new StringBuilder();
-        for (int i = 0; x.pass(k, i) != NONE && i < 20; i++) {
-            got.append((char) ((x.pass(k, i) & 1) == 1 ? 'A' + x.pass(k, i) / 2 : 'a' + x.pass(k, i) / 2));
-        }
-        asked++;
-        if (!got.toString().equals(want)) {
-            wrong++;
-            System.out.println(what + ": the thread is " + got + ", due is " + want);
-        }
-    }
-
-    private static void dueFault(String text, int answer, int at) {
-        PretzelProof x = laid("u7;kAa;");
-        feedAll(x, text);
-        due("tray() of '" + text + "'", x.tray(), answer);
-        due("fault() of '" + text + "'", x.fault(), at);
-        due("letters behind tray() of '" + text + "'", x.told(1), 0);
-        if (answer < 0) {
-            due("pretzels behind '" + text + "'", x.told(0), 1);
-            due("grains behind '" + text + "'", x.told(2), 7);
-        }
+        end();
     }
 
     private static void constants() {
+        at("The public face");
         due("NONE", PretzelProof.NONE, NONE);
         due("UNKNOWN", PretzelProof.UNKNOWN, UNKNOWN);
         due("OUTSIDE", PretzelProof.OUTSIDE, OUTSIDE);
@@ -104,6 +47,7 @@ public final class Promises {
     }
 
     private static void promise1NewObject() {
+        at("Promise 1: a new object");
         PretzelProof x = new PretzelProof();
         for (int what = 0; what <= 8; what++) {
             due("new: told(" + what + ")", x.told(what), 0);
@@ -122,6 +66,7 @@ public final class Promises {
     }
 
     private static void promise2Feed() {
+        at("Promise 2: feed");
         PretzelProof x = new PretzelProof();
         due("feed(-1)", x.feed(-1), OUTSIDE);
         due("feed(256)", x.feed(256), OUTSIDE);
@@ -139,6 +84,7 @@ public final class Promises {
     }
 
     private static void promise3Tray() {
+        at("Promise 3: tray");
         dueFault("u3;k" + TREFOIL + ";k;", 2, NONE);
         dueFault("u3;", 0, NONE);
         dueFault("", 0, NONE);
@@ -177,6 +123,7 @@ public final class Promises {
     }
 
     private static void promise3Numbers() {
+        at("Promise 3: tray");
         dueFault("u", -11, 1);
         dueFault("u;", -11, 1);
         dueFault("u ", -11, 2);
@@ -196,6 +143,7 @@ public final class Promises {
     }
 
     private static void promise3Threads() {
+        at("Promise 3: tray");
         dueFault("kAa;", -11, 0);
         dueFault(" kAa;", -11, 1);
         dueFault("x", -11, 0);
@@ -229,6 +177,7 @@ public final class Promises {
     }
 
     private static void promise4Fault() {
+        at("Promise 4: fault");
         PretzelProof x = new PretzelProof();
         feedAll(x, "u1;kAB;");
         due("fault ahead of tray()", x.fault(), NONE);
@@ -243,6 +192,7 @@ public final class Promises {
     }
 
     private static void promise5Told() {
+        at("Promise 5: told");
         PretzelProof x = laid("u5;k" + TREFOIL + ";kAa;k;kABab;");
         x.feed('u');
         x.salt(1, 0, true);
@@ -265,6 +215,7 @@ public final class Promises {
     }
 
     private static void promise6Pretzel() {
+        at("Promise 6: pretzel");
         PretzelProof x = laid("u9;k" + TREFOIL + ";k" + EIGHT + ";k;kABab;kAbaB;");
         int[][] want = {
             {3, 0, 9, 5, 7, 1, 0}, {4, 0, 3, 25, 15, 1, 0}, {0, 0, 3, 5, 0, 0, 0}, {2, 0, 3, 5, 3, 0, 3}, {2, 0, 3, 5, 3, 0, 3},
@@ -287,6 +238,7 @@ public final class Promises {
     }
 
     private static void promise6Switches() {
+        at("Promise 6: pretzel");
         PretzelProof x = laid("u0;kaBcAbCdEfDeF;kABCabc;kABcDadCb;kABaCbDcd;");
         due("two trefoils by 3", x.pretzel(0, 2), 27);
         due("two trefoils by 5", x.pretzel(0, 3), 5);
@@ -301,6 +253,7 @@ public final class Promises {
     }
 
     private static void promise7Pass() {
+        at("Promise 7: pass");
         PretzelProof x = laid("u0;kzQqZ;k;");
         int[] want = {0, 3, 2, 1, NONE};
         for (int i = 0; i < want.length; i++) {
@@ -314,6 +267,7 @@ public final class Promises {
     }
 
     private static void promise8Moves() {
+        at("Promise 8: moves");
         PretzelProof x = laid("u9;kABCcba;kAbCaBc;k;kABab;");
         int[] want = {0, 1, 12, 22, NONE};
         due("moves(0, NONE)", x.moves(0, NONE), 4);
@@ -333,6 +287,7 @@ public final class Promises {
     }
 
     private static void promise9Shake() {
+        at("Promise 9: shake");
         PretzelProof x = laid("u9;kABCcba;kabcABC;");
         due("shake of no pretzel", x.shake(2, 0, 0), UNKNOWN);
         due("shake of no crossing", x.shake(0, 3, 0), UNKNOWN);
@@ -353,6 +308,7 @@ public final class Promises {
     }
 
     private static void promise10Curl() {
+        at("Promise 10: curl");
         PretzelProof x = laid("u9;kABab;k;kABCDEFGabcdefg;");
         x.salt(0, 0, true);
         due("curl ahead of all", x.curl(0, 0, true), 3);
@@ -373,6 +329,7 @@ public final class Promises {
     }
 
     private static void promise11Turn() {
+        at("Promise 11: turn");
         PretzelProof x = laid("u9;k" + TREFOIL + ";k;");
         due("turn", x.turn(0, 1), 3);
         dueThread("turned", x, 0, "abcABC");
@@ -387,6 +344,7 @@ public final class Promises {
     }
 
     private static void promise12Reverse() {
+        at("Promise 12: reverse");
         PretzelProof x = laid("u9;kABCacb;k;");
         x.salt(0, 0, true);
         due("reverse", x.reverse(0), 3);
@@ -398,6 +356,7 @@ public final class Promises {
     }
 
     private static void promise13Mirror() {
+        at("Promise 13: mirror");
         PretzelProof x = laid("u9;kABCacb;k;");
         x.salt(0, 1, true);
         due("mirror", x.mirror(0), 3);
@@ -409,6 +368,7 @@ public final class Promises {
     }
 
     private static void promise14Roll() {
+        at("Promise 14: roll");
         PretzelProof x = laid("u9;kAbBaCc;k;");
         x.salt(0, 0, true);
         due("roll", x.roll(0), 0);
@@ -421,6 +381,7 @@ public final class Promises {
     }
 
     private static void promise15Join() {
+        at("Promise 15: join");
         PretzelProof x = laid("u9;kAa;k" + TREFOIL + ";k;kABCDEabcde;");
         x.salt(0, 0, true);
         x.salt(1, 1, true);
@@ -442,6 +403,7 @@ public final class Promises {
     }
 
     private static void promise16Salt() {
+        at("Promise 16: salt");
         PretzelProof x = laid("u2;k" + TREFOIL + ";k;");
         due("off where none is", x.salt(0, 0, false), NOT);
         due("salt", x.salt(0, 0, true), 1);
@@ -459,6 +421,7 @@ public final class Promises {
     }
 
     private static void promise17Drift() {
+        at("Promise 17: drift");
         PretzelProof x = laid("u3;kaBcAbC;kABba;kaBcAdCbD;k;kxXyYzZ;");
         due("drift(0)", x.drift(0), OUTSIDE);
         due("drift(31)", x.drift(31), OUTSIDE);
@@ -483,6 +446,7 @@ public final class Promises {
     }
 
     private static void promise18Undo() {
+        at("Promise 18: undo");
         PretzelProof x = laid("u9;kABCDabcd;");
         for (int i = 0; i < 20; i++) {
             x.roll(0);
@@ -508,6 +472,7 @@ public final class Promises {
     }
 
     private static void promise19ToShake() {
+        at("Promise 19: toShake");
         PretzelProof x = laid("u9;k" + TREFOIL + ";kABba;kaAbBcC;k;kABCDdcba;");
         int[][] want = {{3, 0, 1, NONE}, {0, 1, 4, 1}, {0, 3, 8, 0}, {0, 0, 1, NONE}, {0, 2, 12, 1}};
         for (int k = 0; k < want.length; k++) {
@@ -527,6 +492,7 @@ public final class Promises {
     }
 
     private static void promise20Within() {
+        at("Promise 20: within");
         PretzelProof x = laid("u9;kABaCcb;k;");
         due("within(0, 0)", x.within(0, 0), 2);
         due("within(0, 1)", x.within(0, 1), 1);
@@ -538,6 +504,7 @@ public final class Promises {
     }
 
     private static void promise21Same() {
+        at("Promise 21: same");
         PretzelProof x = laid("u9;k" + TREFOIL + ";kAbCaBc;kABaCcb;kABCcba;kCABbca;");
         due("a trefoil", x.same(0, 1), 15);
         due("none", x.same(0, 2), 0);
@@ -554,6 +521,7 @@ public final class Promises {
     }
 
     private static void promise22Tells() {
+        at("Promise 22: tells");
         PretzelProof x = laid("u9;k" + TREFOIL + ";k" + EIGHT + ";k;kABab;kAaBb;");
         due("trefoil and eight", x.tells(0, 1), 7);
         due("trefoil and plain", x.tells(0, 2), 5);
@@ -567,6 +535,7 @@ public final class Promises {
     }
 
     private static void promise23Words() {
+        at("Promise 23: words");
         PretzelProof x = laid("u9;kABCacb;k;");
         PretzelProof y = laid("u9;kABcbCa;");
         for (int i = 0; i < 6; i++) {
@@ -601,6 +570,7 @@ public final class Promises {
     }
 
     private static void promise24Colour() {
+        at("Promise 24: colour");
         PretzelProof x = laid("u9;k" + TREFOIL + ";k" + EIGHT + ";k;kaBcAbCdD;kdDaBcAbC;");
         int[][] want = {{0, 1, 2, NONE}, {NONE, NONE, NONE, NONE}, {NONE, NONE, NONE, NONE}, {0, 1, 2, 2}, {0, 1, 2, 0}};
         for (int k = 0; k < want.length; k++) {
@@ -614,6 +584,7 @@ public final class Promises {
     }
 
     private static void promise25Whole() {
+        at("Promise 25: whole");
         PretzelProof x = new PretzelProof();
         due("whole(0, 0)", x.whole(0, 0), 1000000000);
         due("whole(1, 0)", x.whole(1, 0), 0);
@@ -633,6 +604,7 @@ public final class Promises {
     }
 
     private static void promise26To28Book() {
+        at("Promises 26 write, 27 tear, 28 judge");
         PretzelProof x = laid("u9;k" + TREFOIL + ";k;");
         due("write", x.write(0, 3), 1);
         due("judge", x.judge(), NONE);
@@ -659,6 +631,7 @@ public final class Promises {
     }
 
     private static void promise29Seed() {
+        at("Promise 29: seed");
         PretzelProof x = laid("u0;k;");
         due("seed", x.seed(HIGH), 0);
         due("seed(-1)", x.seed(-1), OUTSIDE);
@@ -671,6 +644,7 @@ public final class Promises {
     }
 
     private static void promise30And31Images() {
+        at("Promises 30 keep, 31 goBack");
         PretzelProof x = laid("u9;k" + TREFOIL + ";kAa;");
         due("keep(-1)", x.keep(-1), UNKNOWN);
         due("keep(2)", x.keep(2), UNKNOWN);
@@ -705,6 +679,7 @@ public final class Promises {
     }
 
     private static void refusalsChangeNothing() {
+        at("Terms: 'What is refused changes nothing'");
         PretzelProof x = laid("u0;k" + TREFOIL + ";kABCDEFGHabcdefgh;");
         x.feed('u');
         x.seed(5);
