@@ -164,10 +164,8 @@ public final class BoundariesOfPromises extends Checks {
         due("other calls leave it", x.fault(), 0);
         x.tray();
         due("behind an empty one", x.fault(), NONE);
-        trayOf(x, "u5" + " ".repeat(238));
-        due("at the end of 240", x.fault(), 240);
-        trayOf(x, "u5" + " ".repeat(237) + "x");
-        due("at the last of 240", x.fault(), 239);
+        dueFault("u5" + " ".repeat(238), -11, 240);
+        dueFault("u5" + " ".repeat(237) + "x", -11, 239);
     }
 
     private static void promise5Told() {

@@ -1,6 +1,3 @@
-import java.util.ArrayList;
-import java.util.List;
-
 /** For each sentence of 'What it is' and 'Terms' that names a boundary case one test, under the sentence that it holds. */
 public final class BoundariesOfTerms extends Checks {
     private static final String GREATS = "ABCDEFGHIJKLMNOPQRSTUVWXYZ", SMALLS = "abcdefghijklmnopqrstuvwxyz";
@@ -1104,21 +1101,20 @@ public final class BoundariesOfTerms extends Checks {
 
     private static void undoneSixteen() {
         at("Terms 3: UNDONE, '16 at most are kept, the oldest are lost'");
+        String five = ("k" + OVERS_THEN_UNDERS + ";").repeat(5);
         for (int many : new int[] {1, 15, 16, 17, 18, 31, 32, 33, 40}) {
-            PretzelProof x = laid("u9;k" + OVERS_THEN_UNDERS + ";");
-            List<String> threads = new ArrayList<>();
+            PretzelProof x = laid("u99;" + five);
             for (int i = 0; i < many; i++) {
-                threads.add(thread(x, 0));
-                x.roll(0);
+                x.salt(i / 8, i % 8, true);
             }
             int kept = Math.min(many, 16);
             due("kept of " + many, x.told(8), kept);
             for (int i = 1; i <= kept; i++) {
                 due("undo() of " + many, x.undo(), kept - i);
-                dueThread("undone " + i + " of " + many, x, 0, threads.get(many - i));
+                due("grains with " + i + " of " + many + " undone", x.told(2), 99 - many + i);
             }
             due("one more of " + many, x.undo(), NOT);
-            dueThread("the oldest that is left of " + many, x, 0, threads.get(many - kept));
+            due("what is lost of " + many, x.told(4), many - kept);
         }
         PretzelProof x = laid("u9;kAa;");
         for (int i = 0; i < 16; i++) {
