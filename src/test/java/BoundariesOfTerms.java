@@ -592,6 +592,9 @@ public final class BoundariesOfTerms extends Checks {
         x.whole(60, 50);
         x.judge();
         due("all behind it", everything(x), everything(busy()));
+        PretzelProof y = laid("u9;k" + TREFOIL + ";k" + CURLS + ";");
+        due("moves of another one", y.moves(1, NONE), 8);
+        due("switches behind that", y.pretzel(0, 5), 1);
     }
 
     private static void moves() {
@@ -631,6 +634,7 @@ public final class BoundariesOfTerms extends Checks {
         dueShake("ABabcC", 0, 2, 4, 1);
         dueShake(TREFOIL + "dD", 3, 1, 2, 33);
         dueShake("abcDeABCdE", 3, 1, 3, 1);
+        dueShake("aBCDebFfcdAE", 3, 2, 5, 23);
         at("Terms 3: SHAKE 'by the numbers that CROSSINGS have now'");
         dueShake("ABCabc", 0, 2, 4, 1);
         at("Terms 3: SHAKE, and 'None that is SALTED goes'");
@@ -756,6 +760,11 @@ public final class BoundariesOfTerms extends Checks {
         due("two plain ones", sameOf("", ""), 15);
         due("a plain one and another", sameOf("", "Aa"), 0);
         due("another and a plain one", sameOf("Aa", ""), 0);
+        at("Terms 3: SAME, of what was longer");
+        PretzelProof shorter = laid("u9;kAaBb;kaA;");
+        shorter.shake(0, 1, 1);
+        due("the shorter one and another", shorter.same(0, 1), 15);
+        due("another and the shorter one", shorter.same(1, 0), 15);
         at("Terms 3: SAME, '(numbered anew)'");
         due("other names", sameOf("AaBcbC", "YyXzxZ"), 1);
         at("Terms 3: SAME, 'SALT is no matter'");

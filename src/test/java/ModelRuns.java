@@ -20,6 +20,7 @@ public final class ModelRuns {
     private static final int NONE = -1, UNKNOWN = -1000000001, OUTSIDE = -1000000002, NOT = -1000000003, FULL = -1000000004;
     private static final int RUNS = 1500;
     private static final int CALLS = 300;
+    private static final int[] FAR = {Integer.MIN_VALUE, Integer.MAX_VALUE, -65536, 65536, 31, 32, 33, 64, 256, UNKNOWN, FULL};
     private static int wrong = 0;
 
     public static void main(String[] args) {
@@ -75,6 +76,15 @@ public final class ModelRuns {
         int d = chance.nextInt(4) == 0 ? c : chance.nextInt(Math.max(1, n));
         int i = chance.nextInt(2 * n + 3) - 1;
         boolean yes = chance.nextBoolean();
+        if (chance.nextInt(40) == 0) {
+            int far = FAR[chance.nextInt(FAR.length)];
+            int which = chance.nextInt(5);
+            k = which == 0 ? far : k;
+            q = which == 1 ? far : q;
+            c = which == 2 ? far : c;
+            d = which == 3 ? far : d;
+            i = which == 4 ? far : i;
+        }
         String at = "(" + k + ", ";
         switch (chance.nextInt(32)) {
             case 0: {
