@@ -1,10 +1,15 @@
+import java.lang.reflect.Array;
 import java.lang.reflect.Field;
 import java.lang.reflect.Method;
 import java.lang.reflect.Modifier;
 import java.nio.charset.StandardCharsets;
 import java.nio.file.Files;
 import java.nio.file.Path;
+import java.util.ArrayDeque;
 import java.util.Arrays;
+import java.util.Deque;
+import java.util.IdentityHashMap;
+import java.util.Map;
 import java.util.Set;
 import java.util.TreeSet;
 import java.util.regex.Matcher;
@@ -51,6 +56,7 @@ public final class LanguageRules {
         for (Class<?> inside : PretzelProof.class.getDeclaredClasses()) {
             classInside(inside);
         }
+        room(new PretzelProof());
         sourceWords(Files.readString(Path.of("src/main/java/PretzelProof.java"), StandardCharsets.ISO_8859_1));
         System.out.println(wrong == 0 ? "the rules are kept" : wrong + " rules are broken");
         if (wrong != 0) {
@@ -117,6 +123,44 @@ public final class LanguageRules {
         }
         rule(own <= 20, "11: twenty fields: " + of);
         rule(PretzelProof.class.getDeclaredClasses().length <= 11, "11: twelve classes");
+    }
+
+    /** All calls of a run live in one room of 600,000 objects, 7.3 million fields and elements: a thousandth for one object. */
+    private static void room(PretzelProof x) throws Exception {
+        Map<Object, Boolean> seen = new IdentityHashMap<>();
+        Deque<Object> open = new ArrayDeque<>(Set.of(x));
+        int elements = 0;
+        while (!open.isEmpty()) {
+            Object one = open.remove();
+            if (seen.put(one, true) == null) {
+                elements += one.getClass().isArray() ? openRow(one, open) : openFields(one, open);
+            }
+        }
+        rule(seen.size() <= 600, "12: a new object is made of " + seen.size() + " objects");
+        rule(elements <= 7300, "12: a new object has " + elements + " fields and elements");
+        String told = seen.size() + " objects with " + elements + " fields and";
+        rule(Files.readString(Path.of("README.md")).contains(told), "README.md does not say '" + told + "'");
+    }
+
+    private static int openRow(Object row, Deque<Object> open) {
+        for (int i = 0; i < Array.getLength(row) && !row.getClass().getComponentType().isPrimitive(); i++) {
+            open.add(Array.get(row, i));
+        }
+        return Array.getLength(row);
+    }
+
+    private static int openFields(Object one, Deque<Object> open) throws IllegalAccessException {
+        int own = 0;
+        for (Field field : one.getClass().getDeclaredFields()) {
+            if (!Modifier.isStatic(field.getModifiers())) {
+                own++;
+                field.setAccessible(true);
+                if (!field.getType().isPrimitive()) {
+                    open.add(field.get(one));
+                }
+            }
+        }
+        return own;
     }
 
     private static void sourceWords(String source) {
