@@ -614,7 +614,16 @@ public final class BoundariesOfTerms extends Checks {
     }
 
     private static void dueShake(String thread, int fewest, int moves, int sets, int first) {
-        PretzelProof x = laid("u0;k" + thread + ";");
+        dueShake(laid("u0;k" + thread + ";"), thread, fewest, moves, sets, first);
+    }
+
+    private static void dueShakeSalted(String thread, int salted, int fewest, int moves, int sets, int first) {
+        PretzelProof x = laid("u1;k" + thread + ";");
+        x.salt(0, salted, true);
+        dueShake(x, thread + " with salt on " + salted, fewest, moves, sets, first);
+    }
+
+    private static void dueShake(PretzelProof x, String thread, int fewest, int moves, int sets, int first) {
         due("fewest crossings of '" + thread + "'", x.toShake(0, 0), fewest);
         due("fewest moves of '" + thread + "'", x.toShake(0, 1), moves);
         due("sets of '" + thread + "'", x.toShake(0, 2), sets);
@@ -635,6 +644,11 @@ public final class BoundariesOfTerms extends Checks {
         dueShake(TREFOIL + "dD", 3, 1, 2, 33);
         dueShake("abcDeABCdE", 3, 1, 3, 1);
         dueShake("aBCDebFfcdAE", 3, 2, 5, 23);
+        at("Terms 3: SHAKE, 'the first MOVE of a row of so few MOVES to so few', where like few ones can be left as other SETS");
+        dueShakeSalted("AbBcdeaCDE", 2, 2, 2, 6, 4);
+        dueShakeSalted("ABCDebafEcdFGg", 4, 2, 3, 10, 1);
+        dueShakeSalted("abcdefCDEFBgGA", 5, 2, 3, 15, 23);
+        dueShakeSalted("ABCDEFcfedbghGHa", 2, 2, 3, 15, 34);
         at("Terms 3: SHAKE 'by the numbers that CROSSINGS have now'");
         dueShake("ABCabc", 0, 2, 4, 1);
         at("Terms 3: SHAKE, and 'None that is SALTED goes'");
